@@ -141,6 +141,11 @@ public final class TriedTest {
     HasteRoads z = Check.land("p0;p0;p0;r0 1 10;r1 2 10;m0 2 4 0 999;m1 2 4 0 999;");
     Check.due("like ones: the minute", z.relay(0, 2, 0), 60);
     Check.due("like ones: by how many at least", z.relay(0, 2, 1), 1);
+    // at 30 by three (4, 10, 30) and by two (20, 30)
+    HasteRoads w = Check.land("p0;p0;p0;p0;p0;r0 1 2;r1 2 4;r0 3 10;r2 4 20;r3 4 10;"
+        + "m0 0 2 0 999;m1 0 1 0 999;m2 0 0 0 999;m3 0 0 0 999;");
+    Check.due("two ways: the minute", w.relay(0, 4, 0), 30);
+    Check.due("two ways: by how many at least", w.relay(0, 4, 1), 2);
   }
 
   /** Promise 21. */
