@@ -390,13 +390,13 @@ public final class HasteRoads {
         final int[] load = new int[MOST_PERSONS];
         final int[] minute = new int[MOST_PERSONS];
 
+        /** THE SEED stays. */
         void clear() {
             places = 0;
             roads = 0;
             persons = 0;
             inns = 0;
             clocks = 0;
-            seed = 0;
         }
 
         void become(World other) {

@@ -412,6 +412,7 @@ public final class LandEdgesTest {
     HasteRoads y = Check.land("p0;m0 0 1 1 1;");
     y.await(0, 999);
     y.load(0, 9);
+    y.soonest(0, 0);
     Check.feed(y, "p0;m0 0 1 1 1;m0 0 1 1 1;");
     y.land();
     y.await(1, 3);

@@ -13,6 +13,7 @@ public final class ToldEdgesTest {
     tear();
     judgeWrong();
     judgeMinute();
+    judgeEachStep();
     judgeFromNow();
     judgeBounds();
     Check.end("ToldEdgesTest");
@@ -120,6 +121,12 @@ public final class ToldEdgesTest {
     Check.due("9 left", x.spent(1), 1);
     Check.due("none left", x.spent(2), 1);
     Check.due("late", x.spent(3), 1);
+    HasteRoads y = Check.land("p0;p0;" + "r0 1 2;".repeat(8) + "r1 0 4;m0 1 0 0 99;m0 1 9 0 99;c1;");
+    y.took(1, 8, 1, 0, 24);
+    y.took(1, 8, 0, 0, 22);
+    y.took(1, 7, 1, 0, 12);
+    y.took(0, 7, 1, 0, 3);
+    for (int i = 0; i < 4; i++) Check.due("the PERSON, the ROAD, the PLACE of " + i, y.spent(i), 1);
   }
 
   /** Promise 29. */
@@ -261,6 +268,22 @@ public final class ToldEdgesTest {
     x.write(-2);
     Check.due("what is behind the first that cannot be does not count", x.judge(0, 1), 8);
     Check.due("WRONG", x.judge(0, 0), 4);
+  }
+
+  /** Promise 32: each ROAD and each s. */
+  private static void judgeEachStep() {
+    Check.says(32, "else 10 times the ROAD and s");
+    StringBuilder text = new StringBuilder("p0;p0;");
+    for (int r = 0; r < 9; r++) text.append("r0 1 ").append(2 * (r + 1)).append(';');
+    text.append("m0 1 9 5 999;");
+    HasteRoads x = Check.land(text.toString());
+    for (int r = 0; r < 9; r++) {
+      for (int s = 0; s <= 5; s++) {
+        x.tear();
+        x.write(10 * r + s);
+        Check.due("ROAD " + r + ", s " + s, x.judge(0, 1), (r + 1) * (11 - s));
+      }
+    }
   }
 
   /** Promise 32: from now on, and nothing changes by it. */

@@ -37,6 +37,9 @@ public final class TriedEdgesTest {
     roundWhereItIs();
     roundNone();
     roundMends();
+    asItIsNow();
+    fullLand();
+    smallerLand();
     nothingChanges();
     Check.end("TriedEdgesTest");
   }
@@ -156,6 +159,8 @@ public final class TriedEdgesTest {
     steps("p0;p0;r0 1 4;m0 1 9 5 30;", 5);
     steps("p1;p0;r0 1 20;m0 1 9 4 999;", -2, 5);
     steps("p1;p0;r0 1 20;m0 1 9 5 999;", 5);
+    steps("p0;p1;r0 1 7;m1 0 1 0 15;", -2, 1);
+    steps("p1;p1;r0 1 3;m1 0 1 1 8;", -2, 2);
     steps("p0;p0;" + "r0 1 20;".repeat(8) + "r0 1 4;m0 1 9 5 99;", 85);
     // a ring of six: five ROADS by one end, one by the other
     steps("p0;p0;p0;p0;p0;p0;r0 1 1;r1 2 1;r2 3 1;r3 4 1;r4 5 1;r5 0 20;m0 5 0 0 999;", 0, 10, 20, 30, 40);
@@ -174,6 +179,14 @@ public final class TriedEdgesTest {
     steps("p1;p0;r0 1 2;m0 1 1 0 999;", -2, 1);
     steps("p1;p0;r0 1 2;m0 1 5 0 999;", -2, -2, -2, -2, -2, 5);
     steps("p0;p0;r0 1 2;m0 1 1 0 999;", 0);
+    // the first minute at the INN saves none, the second one would
+    steps("p1;p0;r0 1 1;m0 1 8 0 999;", 0);
+    Check.says(17, "STEPS of one who is late, or comes to be late on the way");
+    steps("p0;p0;p0;r0 1 4;r1 2 4;m0 2 2 0 9;", 0, 10);
+    steps("p0;p0;p0;r0 1 4;r1 2 4;m0 2 2 0 10;", 0, 10);
+    steps("p0;p0;p0;r0 1 4;r1 2 4;m0 2 2 0 11;", 0, 10);
+    // 3 spent ahead of 2, so that it leaves 1 at minute 8 and not, late, at 10
+    steps("p1;p0;p0;r0 1 4;r1 2 4;m0 2 2 1 9;", -2, -2, -2, -2, 3, 12);
     Check.says(17, "of like ones the first row: the lesser ROAD");
     steps("p0;p0;r0 1 2;r0 1 2;m0 1 1 0 999;", 0);
     steps("p0;p0;r0 1 3;r0 1 2;r1 0 2;m0 1 1 0 999;", 10);
@@ -232,6 +245,8 @@ public final class TriedEdgesTest {
     Check.due("7 miles, 11 with 9 left", Check.land("p0;p0;r0 1 7;m0 1 0 0 30;").latest(0), 20);
     Check.due("11 miles", Check.land("p0;p0;r0 1 11;m0 1 0 0 30;").latest(0), 19);
     Check.due("1 mile, 2 minutes", Check.land("p0;p0;r0 1 1;m0 1 0 0 30;").latest(0), 28);
+    Check.due("the ERRAND at PLACE 0", Check.land("p0;p0;r0 1 1;m1 0 0 0 30;").latest(0), 28);
+    Check.due("by PLACE 0", Check.land("p0;p0;p0;r0 1 1;r0 2 1;m1 2 0 0 30;").latest(0), 26);
   }
 
   /** Promise 18: CALM as now. */
@@ -242,6 +257,9 @@ public final class TriedEdgesTest {
     Check.due("CALM 5 at an INN", Check.land("p1;p0;r0 1 8;m0 1 5 5 50;").latest(0), 40);
     Check.due("CALM 5, no INN", Check.land("p0;p0;r0 1 8;m0 1 5 5 50;").latest(0), 40);
     Check.due("CALM 0, no INN", Check.land("p0;p0;r0 1 8;m0 1 5 0 50;").latest(0), 22);
+    // 9 left at 6: 2 waited, 7; one later it is one too late
+    Check.due("the ERRAND at PLACE 0, CALM 0", Check.land("p0;p1;r0 1 7;m1 0 1 0 15;").latest(0), 6);
+    Check.due("the ERRAND at PLACE 0, CALM 1", Check.land("p1;p1;r0 1 3;m1 0 1 1 8;").latest(0), 4);
     HasteRoads x = Check.land("p1;p0;r0 1 8;m0 1 5 0 50;");
     x.await(0, 5);
     Check.due("CALM as it is behind 5 minutes", x.latest(0), 40);
@@ -359,6 +377,11 @@ public final class TriedEdgesTest {
     HasteRoads like = Check.land("p0;p0;p0;r0 1 10;r1 2 10;m0 0 2 0 999;m1 0 2 0 999;m0 0 2 0 999;");
     Check.due("like ones: the minute", like.relay(0, 2, 0), 40);
     Check.due("like ones: one alone", like.relay(0, 2, 1), 1);
+    // at 30 by three (4, 10, 30) and by two (20, 30), the lesser PLACES first and last
+    HasteRoads ways = Check.land("p0;p0;p0;p0;p0;r0 1 2;r1 2 4;r0 3 10;r2 4 20;r3 4 10;"
+        + "m0 0 2 0 999;m1 0 1 0 999;m2 0 0 0 999;m3 0 0 0 999;");
+    Check.due("two ways: the minute", ways.relay(0, 4, 0), 30);
+    Check.due("two ways: by how many at least", ways.relay(0, 4, 1), 2);
     HasteRoads slow = Check.land("p0;p0;r0 1 10;m0 0 9 0 999;m0 0 2 0 999;");
     Check.due("the better of two", slow.relay(0, 1, 0), 20);
   }
@@ -615,6 +638,136 @@ public final class TriedEdgesTest {
     // out and home, with the INN in the middle: 5, 60, 110, 5, 60
     HasteRoads y = Check.land("p1;p0;p0;r0 1 20;r0 2 20;m0 0 9 0 999;");
     Check.due("at the INN twice", y.round(0, 6), 5 + 60 + 110 + 5 + 60);
+  }
+
+  /** A row of three, 4 miles and 4, and two at its ends; nothing of it is as at first. */
+  private static HasteRoads changed() {
+    HasteRoads x = Check.land("p0;p0;p0;r0 1 9;r1 2 9;m1 2 9 0 999;m1 0 9 0 999;c2;");
+    x.go(0, 0, 0);
+    x.go(1, 1, 0);
+    x.inn(1, true);
+    x.clock(1, true);
+    x.clock(2, false);
+    x.miles(0, 4);
+    x.miles(1, 4);
+    x.load(0, 1);
+    x.load(1, 1);
+    return x;
+  }
+
+  /** Promises 16 to 26: each as the first one that is asked behind a change. HURRY is 10, 11 at 1; both are at 50. */
+  private static void asItIsNow() {
+    Check.says(16, "TRIED from its MINUTE, PLACE, CALM");
+    Check.due("soonest", changed().soonest(0, 1), 74);
+    Check.due("soonest behind an INN: 24, 5 waited, 16", changed().soonest(0, 2), 95);
+    Check.says(17, "TRIED from its MINUTE, PLACE, CALM");
+    int[] row = {0, -2, -2, -2, -2, -2, 15, Check.NONE};
+    for (int i = 0; i < row.length; i++) Check.due("step(0, " + i + ")", changed().step(0, i), row[i]);
+    Check.says(18, "TRIED from its MINUTE, PLACE, CALM");
+    Check.due("latest, 45 ahead of 999 with 10 left at 1", changed().latest(0), latestOfChanged());
+    Check.says(19, "TRIED from its MINUTE, PLACE, CALM");
+    Check.due("inns", changed().inns(0), 0);
+    Check.says(20, "TRIED from PLACE, CALM");
+    Check.due("relay", changed().relay(0, 1, 0), 24);
+    Check.due("relay behind an INN", changed().relay(0, 2, 0), 45);
+    Check.due("relay from where they were", changed().relay(1, 0, 0), Check.NONE);
+    Check.says(21, "TRIED from its MINUTE, PLACE, CALM");
+    Check.due("meet", changed().meet(0, 1, 0), 74);
+    Check.due("meet, the PLACE", changed().meet(0, 1, 1), 1);
+    Check.says(22, "TRIED from its MINUTE, PLACE, CALM");
+    Check.due("cost(1), one mile of HURRY for both", changed().cost(1), 4);
+    Check.due("cost(2)", changed().cost(2), 2);
+    Check.says(23, "TRIED from its MINUTE, PLACE, CALM");
+    Check.due("shorter", changed().shorter(0), 0);
+    Check.due("shorter: 6 for one, 4 for the other one", changed().shorter(1), 10);
+    Check.says(24, "TRIED from its MINUTE, PLACE, CALM");
+    Check.due("lend, no more at one PLACE", changed().lend(0, 1, 0), Check.NOT);
+    HasteRoads x = changed();
+    x.go(0, 0, 0);
+    x.go(0, 1, 0);
+    x.inn(2, true);
+    x.await(0, 2);
+    Check.due("lend, 2 at one PLACE: two minutes less to wait", x.lend(0, 1, 2), 2);
+    Check.says(26, "TRIED from its MINUTE, PLACE, CALM");
+    Check.due("round", changed().round(0, 6), 95);
+  }
+
+  /** Minute by minute, staying, from the answers of soonest. */
+  private static int latestOfChanged() {
+    int latest = Check.NONE;
+    for (int stay = 870; stay <= 949; stay++) {
+      HasteRoads x = changed();
+      x.await(0, stay);
+      if (x.soonest(0, 2) <= 999) latest = 50 + stay;
+    }
+    return latest;
+  }
+
+  /** Promises 16 to 26 where there is no room for more: 6 PLACES in a row, 9 ROADS (four too long), 4 PERSONS. */
+  private static void fullLand() {
+    String row = "p0;p0;p0;p0;p0;p0;r0 1 2;r1 2 2;r2 3 2;r3 4 2;r4 5 2;r0 1 20;r1 2 20;r2 3 20;r3 4 20;";
+    HasteRoads x = Check.land(row + "m0 5 0 0 999;m5 0 0 0 999;m2 3 0 0 999;m3 2 0 0 999;");
+    Check.says(16, "6 PLACES, 9 ROADS, 4 PERSONS");
+    for (int at = 0; at <= 5; at++) {
+      Check.due("soonest(0, " + at + ")", x.soonest(0, at), 2 * at);
+      Check.due("soonest(1, " + at + ")", x.soonest(1, at), 2 * (5 - at));
+    }
+    Check.says(17, "6 PLACES, 9 ROADS, 4 PERSONS");
+    int[] there = {0, 10, 20, 30, 40, Check.NONE};
+    int[] back = {40, 30, 20, 10, 0, Check.NONE};
+    for (int i = 0; i <= 5; i++) {
+      Check.due("step(0, " + i + ")", x.step(0, i), there[i]);
+      Check.due("step(1, " + i + ")", x.step(1, i), back[i]);
+    }
+    Check.says(18, "6 PLACES, 9 ROADS, 4 PERSONS");
+    Check.due("latest(0): 2, 2, then 3, 3, 3 with fewer than 10 left", x.latest(0), 999 - 13);
+    Check.due("latest(3)", x.latest(3), 999 - 3);
+    Check.says(19, "6 PLACES, 9 ROADS, 4 PERSONS");
+    Check.due("inns(0)", x.inns(0), 0);
+    Check.says(20, "6 PLACES, 9 ROADS, 4 PERSONS");
+    Check.due("relay(0, 5, 0)", x.relay(0, 5, 0), 10);
+    Check.due("relay(0, 5, 1)", x.relay(0, 5, 1), 1);
+    Check.due("relay(5, 0, 0)", x.relay(5, 0, 0), 10);
+    Check.due("relay(4, 0, 0)", x.relay(4, 0, 0), Check.NONE);
+    Check.says(21, "6 PLACES, 9 ROADS, 4 PERSONS");
+    Check.due("meet(0, 1, 0)", x.meet(0, 1, 0), 6);
+    Check.due("meet(0, 1, 1)", x.meet(0, 1, 1), 2);
+    Check.says(22, "6 PLACES, 9 ROADS, 4 PERSONS");
+    for (int at = 0; at <= 5; at++) Check.due("cost(" + at + ")", x.cost(at), at == 2 || at == 3 ? 3 : at % 5 == 0 ? 1 : 2);
+    Check.says(23, "6 PLACES, 9 ROADS, 4 PERSONS");
+    Check.due("shorter(0), which all of them go", x.shorter(0), 2);
+    Check.due("shorter(1)", x.shorter(1), 4);
+    Check.says(24, "6 PLACES, 9 ROADS, 4 PERSONS");
+    Check.due("lend(3, 2, 0)", x.lend(3, 2, 0), Check.NOT);
+    Check.says(25, "6 PLACES, 9 ROADS, 4 PERSONS");
+    Check.due("guard(5, 0)", x.guard(5, 0), 5);
+    Check.due("guard(0, 5)", x.guard(0, 5), 5);
+    Check.says(26, "6 PLACES, 9 ROADS, 4 PERSONS");
+    Check.due("round(0, 63)", x.round(0, 63), 10);
+    Check.due("round(2, 63): 4 and 10", x.round(2, 63), 14);
+    Check.due("round(3, 63): 4 and 10", x.round(3, 63), 14);
+  }
+
+  /** Promises 16 to 26: what an earlier, greater land had is no more. */
+  private static void smallerLand() {
+    HasteRoads x = Check.land("p1;p1;p1;p1;p1;p1;r0 1 1;r0 2 1;r0 3 1;r0 4 1;r0 5 1;r1 2 1;m0 5 0 0 99;m0 5 0 0 99;c0;");
+    x.soonest(0, 5);
+    Check.feed(x, "p0;p0;p0;r0 1 4;m0 1 9 0 999;");
+    x.land();
+    Check.says(16, "NONE: no ROADS lead there (they did in an earlier land)");
+    Check.due("soonest(0, 1)", x.soonest(0, 1), 22);
+    Check.due("soonest(0, 2)", x.soonest(0, 2), Check.NONE);
+    Check.due("soonest(0, 3)", x.soonest(0, 3), Check.UNKNOWN);
+    Check.due("relay(0, 2, 0)", x.relay(0, 2, 0), Check.NONE);
+    Check.due("guard(0, 2)", x.guard(0, 2), Check.NONE);
+    Check.due("guard(0, 1)", x.guard(0, 1), 1);
+    Check.due("round(0, 4)", x.round(0, 4), Check.NONE);
+    Check.due("round(0, 8)", x.round(0, 8), Check.UNKNOWN);
+    Check.due("meet(0, 1, 0)", x.meet(0, 1, 0), Check.UNKNOWN);
+    Check.due("cost(0)", x.cost(0), 2);
+    Check.due("shorter(1)", x.shorter(1), 5);
+    Check.due("told(4)", x.told(4), 0);
+    Check.due("told(5)", x.told(5), 0);
   }
 
   private static HasteRoads some() {
