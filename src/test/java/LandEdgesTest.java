@@ -507,9 +507,10 @@ public final class LandEdgesTest {
     x.keep(0);
     x.goBack(0);
     Check.due("fault(), no part of an IMAGE", x.fault(), 249);
-    Check.feed(x, " ".repeat(249) + "p");
-    x.land();
-    Check.due("fault(), behind the 250th letter", x.fault(), 250);
+    HasteRoads full = new HasteRoads();
+    Check.feed(full, " ".repeat(249) + "p");
+    full.land();
+    Check.due("fault(), behind the 250th letter", full.fault(), 250);
   }
 
   /** Promise 5. */

@@ -3,13 +3,17 @@ import java.util.Random;
 /** Promises 1 to 35: runs of drawn calls, each answer held against the Model's. The draws are the same each time. */
 public final class ModelTest {
   private static final int RUNS = 400;
-  private static final int CALLS = 300;
+  /** An object is used for at most 512 calls. A text is 252 letters at most and two calls, STEPS are 13 at most. */
+  private static final int CALLS = 512;
+  private static final int CALLS_OF_A_LAND = 254;
+  private static final int CALLS_OF_STEPS = 13;
 
   private final Random random;
   private final HasteRoads real = new HasteRoads();
   private final Model model = new Model();
   private final StringBuilder history = new StringBuilder();
   private int places, roads, persons;
+  private int asked;
 
   private ModelTest(long seed) {
     random = new Random(seed);
@@ -24,13 +28,14 @@ public final class ModelTest {
 
   private void run(int run) {
     tellLand(run, false);
-    for (int call = 0; call < CALLS; call++) {
-      if (random.nextInt(60) == 0) tellLand(run, random.nextInt(4) > 0);
+    while (asked + CALLS_OF_STEPS <= CALLS) {
+      if (random.nextInt(60) == 0 && asked + CALLS_OF_A_LAND <= CALLS) tellLand(run, random.nextInt(4) > 0);
       else call(run);
     }
   }
 
   private void due(int run, String call, int got, int want) {
+    asked++;
     Check.due("run " + run + ": " + (got == want ? "" : history) + call, got, want);
     if (history.length() < 5000) history.append(call).append('=').append(want).append(' ');
   }
